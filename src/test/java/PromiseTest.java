@@ -73,12 +73,17 @@ public final class PromiseTest {
         for (int what = 0; what <= 5; what++) {
             all.append(x.points(what)).append(' ');
         }
+        return all.append(eachPoint()).append(x.fault()).toString();
+    }
+
+    private static String eachPoint() {
+        StringBuilder all = new StringBuilder();
         for (int point = 0; point < x.count(1); point++) {
             for (int what = 0; what <= 10; what++) {
                 all.append(x.of(point, what)).append(' ');
             }
         }
-        return all.append(x.fault()).toString();
+        return all.toString();
     }
 
     private static int write(String text) {
@@ -401,6 +406,16 @@ public final class PromiseTest {
         }
         fails("points(6)", () -> x.points(6), BAD_VALUE);
         fails("points(-1)", () -> x.points(-1), BAD_VALUE);
+        x = new PointAnswers();
+        x.claim(0, 1, 1);
+        x.claim(1, 1, 3);
+        x.claim(0, 1, 6);
+        x.answer(2, 1, 0);
+        x.answer(2, 1, 0);
+        x.overrule(0);
+        x.overrule(1);
+        x.pass(15);
+        due("points(2): overruled and lapsed, two each", x.points(2), 0b11011);
         tree(NONE, NONE, NONE, NONE, NONE, NONE, NONE, NONE, NONE, NONE, NONE, NONE,
             NONE, NONE, NONE, NONE, NONE, NONE, NONE, NONE, NONE, NONE, NONE, NONE);
         due("points(0), 24 of them", x.points(0), (1 << 24) - 1);
@@ -437,6 +452,10 @@ public final class PromiseTest {
         due("toFall(2), without answers", x.toFall(2), 1);
         fails("toFall(6)", () -> x.toFall(6), NO_SUCH);
         fails("toFall(-1)", () -> x.toFall(-1), NO_SUCH);
+        tree(NONE);
+        due("toFall(0), without answers", x.toFall(0), 1);
+        x.withdraw(0);
+        due("toFall(0), withdrawn", x.toFall(0), 0);
         tree(NONE, 0, 1, 1, 0, 4);
         due("toFall(0): the cheaper answer", x.toFall(0), 1);
         x.answer(4, 1, 0);
@@ -473,6 +492,9 @@ public final class PromiseTest {
         due("bestAnswer(1), no point", x.bestAnswer(1), NONE);
         due("bestAnswer(2), no point", x.bestAnswer(2), BAD_VALUE);
         due("bestAnswer(-1)", x.bestAnswer(-1), BAD_VALUE);
+        tree(NONE);
+        due("bestAnswer(0), one point", x.bestAnswer(0), 0);
+        due("bestAnswer(1), one point", x.bestAnswer(1), 1);
         tree(NONE, 0, 0, NONE, 3, 4);
         due("bestAnswer(0)", x.bestAnswer(0), 5);
         due("bestAnswer(1)", x.bestAnswer(1), 1);
@@ -510,6 +532,18 @@ public final class PromiseTest {
         due("changesIn()", x.changesIn(), 56);
         x.withdraw(1);
         due("changesIn(), all withdrawn", x.changesIn(), NONE);
+        tree(NONE, 0, NONE, 2);
+        x.withdraw(1);
+        x.withdraw(3);
+        x.answer(0, 9, 1);
+        x.overrule(0);
+        due("changesIn(): those that are out for good", x.changesIn(), NONE);
+        x.overrule(0);
+        x.claim(1, 9, 0);
+        x.set(1, 9);
+        x.withdraw(4);
+        x.answer(0, 1, 0);
+        due("changesIn(): those that are struck out", x.changesIn(), NONE);
         x = new PointAnswers();
         for (int i = 0; i < 10; i++) {
             x.pass(99);
@@ -649,6 +683,9 @@ public final class PromiseTest {
         write("o1;o1");
         due("carryOut(), and back", x.carryOut(), 2);
         due("count(9)", x.count(9), 2 | 32);
+        write("t37;t5");
+        due("carryOut(), days of two digits", x.carryOut(), 2);
+        due("count(0)", x.count(0), 107);
     }
 
     private static void carryOutIsOneChange() {
@@ -769,10 +806,46 @@ public final class PromiseTest {
             due("count(" + what + ")", x.count(what), want[what]);
         }
         due("of(1, 10)", x.of(1, 10), 20);
+        due("undo() of a restore()", x.undo(), 5);
+        due("count(1)", x.count(1), 3);
+        due("restore(0)", x.restore(0), 2);
         x.withdraw(0);
         due("restore(0), kept", x.restore(0), 2);
         due("of(0, 6)", x.of(0, 6), 5);
         x.undo();
         due("of(0, 6)", x.of(0, 6), 1);
+        restoreOverOtherPoints();
+    }
+
+    private static void restoreOverOtherPoints() {
+        x = new PointAnswers();
+        x.save(0);
+        x.claim(0, 1, 0);
+        x.answer(0, 2, 3);
+        x.save(1);
+        x.restore(0);
+        x.pass(4);
+        x.claim(1, 8, 5);
+        x.claim(1, 9, 6);
+        x.withdraw(0);
+        String before = eachPoint();
+        due("restore(1)", x.restore(1), 2);
+        int[][] want = {{0, 1, 0, NONE, 0, 0, 5, 1, 2, 0, NONE}, {1, 2, 0, 0, 3, 1, 0, NONE, 0, 1, 14}};
+        for (int point = 0; point < want.length; point++) {
+            for (int what = 0; what <= 10; what++) {
+                due("of(" + point + ", " + what + ")", x.of(point, what), want[point][what]);
+            }
+        }
+        x.undo();
+        x.pass(1);
+        x.undo();
+        x.restore(1);
+        x.undo();
+        x.overrule(0);
+        x.undo();
+        due("the points are as before", eachPoint().equals(before) ? 1 : 0, 1);
+        x.restore(0);
+        x.claim(0, 1, 0);
+        due("a new point in a withdrawn one's place", x.of(0, 6), 0);
     }
 }
