@@ -673,11 +673,12 @@ public final class PointAnswers {
         private void weigh(Bundle bundle) {
             int out = bundle.out();
             int withoutAnswers = bundle.withoutAnswers();
-            for (int i = 0; i < MOST_POINTS; i++) {
+            int places = Math.min(fall.length, stand.length);
+            for (int i = 0; i < places; i++) {
                 fall[i] = UNREACHABLE;
                 stand[i] = 0;
             }
-            for (int i = MOST_POINTS - 1; i >= 0; i--) {
+            for (int i = places - 1; i >= 0; i--) {
                 Point point = bundle.find(i);
                 if (point == null) {
                     continue;
@@ -693,18 +694,18 @@ public final class PointAnswers {
         }
 
         private void addToTarget(int target, int fallOfAnswer, int standOfAnswer) {
-            if (target >= 0 && target < MOST_POINTS) {
+            if (target >= 0 && target < fall.length && target < stand.length) {
                 fall[target] = Math.min(fall[target], standOfAnswer);
                 stand[target] = Math.min(UNREACHABLE, stand[target] + fallOfAnswer);
             }
         }
 
         private int answersToFall(int number) {
-            return reachable(number >= 0 && number < MOST_POINTS ? fall[number] : UNREACHABLE);
+            return reachable(number >= 0 && number < fall.length ? fall[number] : UNREACHABLE);
         }
 
         private int answersToStand(int number) {
-            return reachable(number >= 0 && number < MOST_POINTS ? stand[number] : UNREACHABLE);
+            return reachable(number >= 0 && number < stand.length ? stand[number] : UNREACHABLE);
         }
 
         private static int reachable(int cost) {
@@ -744,7 +745,7 @@ public final class PointAnswers {
         }
 
         private void append(char sign) {
-            if (length >= 0 && length < MOST_SIGNS) {
+            if (length >= 0 && length < signs.length) {
                 signs[length] = sign;
                 length++;
             }
@@ -752,7 +753,7 @@ public final class PointAnswers {
 
         /** The character at an index, 0 (which no order has) behind the end. */
         private char signAt(int index) {
-            return index >= 0 && index < length && index < MOST_SIGNS ? signs[index] : 0;
+            return index >= 0 && index < length && index < signs.length ? signs[index] : 0;
         }
     }
 
@@ -903,10 +904,11 @@ public final class PointAnswers {
 
         private void dropOldest() {
             Bundle oldest = rowAt(0);
-            for (int i = 0; i < MOST_STATES; i++) {
+            // It goes up to the end, as the row that is free then.
+            for (int i = 0; i + 1 < rows.length; i++) {
                 rows[i] = rows[i + 1];
+                rows[i + 1] = oldest;
             }
-            rows[MOST_STATES] = oldest;
         }
 
         private int bringBack(Bundle bundle) {
